@@ -773,7 +773,10 @@ public final class SighChart {
         private static final int FED_AT_ONCE = 20;
         private static final int MOST_DIGITS = 4;
         private static final int MOST_NAME_LETTERS = 8;
-        /** Five bits a letter: a longer word would not fit a long, and is neither a word of the language nor a name. */
+        /** A word's code has its letters as digits, a as 1. */
+        private static final long LETTER_UNIT = 32;
+        private static final int BEFORE_A = 'a' - 1;
+        /** A longer word would not fit a long, and is neither a word of the language nor a name. */
         private static final int MOST_CODED_LETTERS = 12;
 
         private final byte[] bytes = new byte[MOST_BYTES];
@@ -795,7 +798,7 @@ public final class SighChart {
                 if (letter == ' ') {
                     word++;
                 } else {
-                    codes[word] = withLetter(codes[word], letter);
+                    codes[word] = codes[word] * LETTER_UNIT + letter - BEFORE_A;
                 }
             }
         }
@@ -867,7 +870,7 @@ public final class SighChart {
         }
 
         int letter(int k) {
-            return within(k, 0, letters() - 1) ? byteAt(place + k) : 0;
+            return within(k, 0, letters() - 1) ? bytes[place + k] : 0;
         }
 
         boolean isName() {
@@ -909,31 +912,33 @@ public final class SighChart {
 
         void advance() {
             place = behind;
-            for (int at = behind; at < end && isBlank(byteAt(at)); at++) {
-                place = at + 1;
+            while (place < end && isBlank(bytes[place])) {
+                place++;
             }
             behind = place;
             value = NONE;
             code = 0;
-            int first = byteAt(place);
             if (place >= end) {
                 kind = END;
-            } else if (isLetter(first)) {
-                takeWord();
-            } else if (isDigit(first)) {
-                takeNumber();
+                return;
+            }
+            kind = kindOf(bytes[place]);
+            behind = place + 1;
+            while (behind < end && isLong(kind) && kindOf(bytes[behind]) == kind) {
+                behind++;
+            }
+            if (kind == WORD) {
+                readWord();
+            } else if (kind == NUMBER) {
+                readNumber();
             } else {
-                kind = isSign(first) ? SIGN : BAD;
-                value = first;
-                behind = place + 1;
+                value = bytes[place];
             }
         }
 
-        private void takeWord() {
-            kind = WORD;
-            for (int at = place; at < end && isLetter(byteAt(at)); at++) {
-                code = withLetter(code, byteAt(at));
-                behind = at + 1;
+        private void readWord() {
+            for (int at = place; at < behind; at++) {
+                code = code * LETTER_UNIT + bytes[at] - BEFORE_A;
             }
             if (behind - place > MOST_CODED_LETTERS) {
                 code = 0;
@@ -945,37 +950,33 @@ public final class SighChart {
             }
         }
 
-        private void takeNumber() {
+        private void readNumber() {
             value = 0;
-            for (int at = place; at < end && isDigit(byteAt(at)); at++) {
-                value = value * 10 + byteAt(at) - '0';
-                behind = at + 1;
+            for (int at = place; at < behind; at++) {
+                value = value * 10 + bytes[at] - '0';
             }
-            kind = behind - place > MOST_DIGITS ? BAD : NUMBER;
+            if (behind - place > MOST_DIGITS) {
+                kind = BAD;
+            }
         }
 
-        private int byteAt(int at) {
-            return within(at, 0, MOST_BYTES - 1) ? bytes[at] : 0;
+        /** What kind of token a byte that is not blank is of. */
+        private static int kindOf(int b) {
+            if (b >= 'a' && b <= 'z') {
+                return WORD;
+            }
+            if (b >= '0' && b <= '9') {
+                return NUMBER;
+            }
+            return b == ';' || b == '<' || b == '>' || b == '=' ? SIGN : BAD;
         }
 
-        private static long withLetter(long letters, int letter) {
-            return letters * 32 + (letter - 'a' + 1);
+        private static boolean isLong(int kind) {
+            return kind == WORD || kind == NUMBER;
         }
 
         private static boolean isBlank(int b) {
             return b == 10 || b == 32;
-        }
-
-        private static boolean isLetter(int b) {
-            return within(b, 'a', 'z');
-        }
-
-        private static boolean isDigit(int b) {
-            return within(b, '0', '9');
-        }
-
-        private static boolean isSign(int b) {
-            return b == ';' || b == '<' || b == '>' || b == '=';
         }
     }
 
@@ -1039,7 +1040,7 @@ public final class SighChart {
         }
 
         int kindAt(int cell) {
-            return hasCell(cell) ? sea[cell] : OPEN_SEA;
+            return within(cell, 0, sea.length - 1) ? sea[cell] : OPEN_SEA;
         }
 
         boolean hasTraveller(int traveller) {
@@ -1174,7 +1175,7 @@ public final class SighChart {
         boolean told;
         int steps;
         int lines;
-        /** What is done: the number of the step's first word, or of its test's first word. */
+        /** The number of the word that a step begins with; of a when: that its test begins with. */
         private final int[] deeds = new int[MOST_LINES];
         private final int[] firsts = new int[MOST_LINES];
         private final int[] seconds = new int[MOST_LINES];
@@ -1199,10 +1200,9 @@ public final class SighChart {
             System.arraycopy(other.partners, 0, partners, 0, lines);
         }
 
-        void addStep(int deed, int first, int second, int third) {
-            if (addLine(deed, first, second, third)) {
-                steps++;
-            }
+        boolean addStep(int deed, int first, int second, int third) {
+            steps++;
+            return addLine(deed, first, second, third);
         }
 
         void addEnd(int beginning) {
@@ -1433,10 +1433,14 @@ public final class SighChart {
 
         private Duchy duchy;
         private Almanac almanac;
+        /** The lines of the steps that hold what is read now. */
         private final int[] open = new int[Almanac.MOST_DEPTH];
         private int depth;
         private int traveller;
         private int cell;
+        private int kind;
+        private int comparison;
+        private int number;
 
         boolean take(Tape tape, int n, Duchy against, Almanac into) {
             into.clear();
@@ -1445,7 +1449,8 @@ public final class SighChart {
             depth = 0;
             tape.begin(n);
             for (int step = 0; step < n && !tape.atEnd(); step++) {
-                if (!takeStep(tape)) {
+                boolean taken = tape.isWord(Tape.CLOSE) ? takeEnd(tape) : takeStep(tape);
+                if (!taken) {
                     return false;
                 }
             }
@@ -1454,47 +1459,6 @@ public final class SighChart {
             }
             almanac.told = true;
             return true;
-        }
-
-        private boolean takeStep(Tape tape) {
-            int word = tape.word();
-            if (word == Tape.CLOSE) {
-                return takeEnd(tape);
-            }
-            if (!beginsStep(word)) {
-                return tape.blame(2);
-            }
-            if (almanac.steps >= Almanac.MOST_STEPS) {
-                return tape.blame(6);
-            }
-            if ((word == Tape.WHEN || word == Tape.LOOP) && depth >= open.length) {
-                return tape.blame(7);
-            }
-            tape.advance();
-            return takeRest(tape, word) && tape.passSign(';');
-        }
-
-        private static boolean beginsStep(int word) {
-            return word == Tape.TOLD || within(word, Tape.HEAR, Tape.WHEN) || word == Tape.LOOP || word == Tape.STOP;
-        }
-
-        private boolean takeRest(Tape tape, int word) {
-            switch (word) {
-                case Tape.HEAR:
-                case Tape.FORGET:
-                    return takeNameStep(tape, word);
-                case Tape.TOLD:
-                    return takeTold(tape);
-                case Tape.SAIL:
-                    return takeCellStep(tape, word);
-                case Tape.WHEN:
-                    return takeWhen(tape);
-                case Tape.LOOP:
-                    return takeLoop(tape);
-                default:
-                    almanac.addStep(word, 0, 0, 0);
-                    return true;
-            }
         }
 
         private boolean takeEnd(Tape tape) {
@@ -1507,89 +1471,64 @@ public final class SighChart {
             return tape.passSign(';');
         }
 
-        private boolean takeNameStep(Tape tape, int deed) {
-            if (!takeName(tape)) {
-                return false;
-            }
-            almanac.addStep(deed, traveller, 0, 0);
-            return true;
-        }
-
-        private boolean takeCellStep(Tape tape, int deed) {
-            if (!takeCell(tape)) {
-                return false;
-            }
-            almanac.addStep(deed, cell, 0, 0);
-            return true;
-        }
-
-        private boolean takeTold(Tape tape) {
-            if (!takeName(tape) || !takeCell(tape)) {
-                return false;
-            }
-            int kind = tape.feeling();
-            if (kind == NONE) {
+        private boolean takeStep(Tape tape) {
+            int word = tape.word();
+            if (!beginsStep(word)) {
                 return tape.blame(2);
             }
-            almanac.addStep(Tape.TOLD, traveller, cell, kind);
-            tape.advance();
-            return true;
-        }
-
-        private boolean takeLoop(Tape tape) {
-            if (!tape.isNumber(1, MOST_ROUNDS)) {
-                return false;
+            if (almanac.steps >= Almanac.MOST_STEPS) {
+                return tape.blame(6);
             }
-            openHere();
-            almanac.addStep(Tape.LOOP, tape.number(), 0, 0);
+            if (word == Tape.WHEN || word == Tape.LOOP) {
+                if (depth >= open.length) {
+                    return tape.blame(7);
+                }
+                open[depth] = almanac.lines;
+                depth++;
+            }
             tape.advance();
-            return true;
+            boolean taken = word == Tape.WHEN ? takeTest(tape) : takeRest(tape, word);
+            return taken && tape.passSign(';');
         }
 
-        private boolean takeWhen(Tape tape) {
+        private static boolean beginsStep(int word) {
+            return word == Tape.TOLD || within(word, Tape.HEAR, Tape.WHEN) || word == Tape.LOOP || word == Tape.STOP;
+        }
+
+        private boolean takeRest(Tape tape, int word) {
+            switch (word) {
+                case Tape.HEAR:
+                case Tape.FORGET:
+                    return takeName(tape) && almanac.addStep(word, traveller, 0, 0);
+                case Tape.TOLD:
+                    return takeName(tape) && takeCell(tape) && takeFeeling(tape) && almanac.addStep(word, traveller, cell, kind);
+                case Tape.SAIL:
+                    return takeCell(tape) && almanac.addStep(word, cell, 0, 0);
+                case Tape.LOOP:
+                    return takeNumber(tape, 1, MOST_ROUNDS) && almanac.addStep(word, number, 0, 0);
+                default:
+                    return almanac.addStep(word, 0, 0, 0);
+            }
+        }
+
+        /** A when stands in the almanac as its test. */
+        private boolean takeTest(Tape tape) {
             int test = tape.word();
             if (test != Tape.HEARD && test != Tape.BLANK && test != Tape.DRAWN && test != Tape.KNOWN) {
                 return tape.blame(2);
             }
-            openHere();
             tape.advance();
             switch (test) {
                 case Tape.HEARD:
-                    return takeNameStep(tape, test);
+                    return takeName(tape) && almanac.addStep(test, traveller, 0, 0);
                 case Tape.BLANK:
-                    return takeCellStep(tape, test);
+                    return takeCell(tape) && almanac.addStep(test, cell, 0, 0);
                 case Tape.DRAWN:
-                    return takeDrawn(tape);
+                    return takeCell(tape) && takeFeeling(tape) && almanac.addStep(test, cell, kind, 0);
                 default:
-                    return takeKnown(tape);
+                    return takeComparison(tape) && takeNumber(tape, 0, MOST_CELLS)
+                            && almanac.addStep(test, comparison, number, 0);
             }
-        }
-
-        private boolean takeDrawn(Tape tape) {
-            if (!takeCell(tape)) {
-                return false;
-            }
-            int kind = tape.feeling();
-            if (kind == NONE) {
-                return tape.blame(2);
-            }
-            almanac.addStep(Tape.DRAWN, cell, kind, 0);
-            tape.advance();
-            return true;
-        }
-
-        private boolean takeKnown(Tape tape) {
-            int comparison = tape.comparison();
-            if (!within(comparison, -1, 1)) {
-                return tape.blame(2);
-            }
-            tape.advance();
-            if (!tape.isNumber(0, MOST_CELLS)) {
-                return false;
-            }
-            almanac.addStep(Tape.KNOWN, comparison, tape.number(), 0);
-            tape.advance();
-            return true;
         }
 
         private boolean takeName(Tape tape) {
@@ -1618,12 +1557,31 @@ public final class SighChart {
             return true;
         }
 
-        /** The step that comes next holds others. */
-        private void openHere() {
-            if (within(depth, 0, open.length - 1)) {
-                open[depth] = almanac.lines;
-                depth++;
+        private boolean takeFeeling(Tape tape) {
+            kind = tape.feeling();
+            if (kind == NONE) {
+                return tape.blame(2);
             }
+            tape.advance();
+            return true;
+        }
+
+        private boolean takeComparison(Tape tape) {
+            comparison = tape.comparison();
+            if (!within(comparison, -1, 1)) {
+                return tape.blame(2);
+            }
+            tape.advance();
+            return true;
+        }
+
+        private boolean takeNumber(Tape tape, int low, int high) {
+            if (!tape.isNumber(low, high)) {
+                return false;
+            }
+            number = tape.number();
+            tape.advance();
+            return true;
         }
     }
 
@@ -1645,14 +1603,18 @@ public final class SighChart {
 
         int votesFor(int cell, int kind) {
             int place = cell * KINDS + kind;
-            return within(place, 0, tally.length - 1) ? tally[place] : 0;
+            return place >= 0 && place < tally.length ? tally[place] : 0;
         }
 
         int drawnAs(int cell) {
+            int first = cell * KINDS;
+            if (first < 0 || first + KINDS > tally.length) {
+                return WHITE;
+            }
             int drawn = WHITE;
             int most = 0;
             for (int kind = 0; kind < KINDS; kind++) {
-                int votes = votesFor(cell, kind);
+                int votes = tally[first + kind];
                 if (votes > most) {
                     most = votes;
                     drawn = kind;
@@ -1745,27 +1707,25 @@ public final class SighChart {
             return better;
         }
 
+        /** From cell to cell that keeps the cost, always the first of them. */
         private boolean follow(int harbour, int target) {
             int here = harbour;
             for (int step = 1; step < path.length && here != target; step++) {
-                here = firstBest(here);
-                if (here == NONE) {
+                int first = NONE;
+                for (int side = 0; side < SIDES && first == NONE; side++) {
+                    int next = neighbour(here, side);
+                    if (next != NONE && entry[next] + cost[next] == cost[here]) {
+                        first = next;
+                    }
+                }
+                if (first == NONE) {
                     return false;
                 }
+                here = first;
                 path[step] = here;
                 cells = step;
             }
             return here == target;
-        }
-
-        private int firstBest(int here) {
-            for (int side = 0; side < SIDES; side++) {
-                int next = neighbour(here, side);
-                if (next != NONE && entry[next] + cost[next] == cost[here]) {
-                    return next;
-                }
-            }
-            return NONE;
         }
 
         /** The sides are told such that the neighbours' numbers rise. */
@@ -1786,7 +1746,7 @@ public final class SighChart {
                     next = cell + columns;
                     break;
             }
-            return within(next, 0, count - 1) ? next : NONE;
+            return next >= 0 && next < count ? next : NONE;
         }
 
         int cells() {

@@ -174,6 +174,8 @@ final class TextsTest {
         years(c, "when drawn 0 0; end;", 2, 14);
         years(c, "when known ; 3;", 2, 11);
         years(c, "when known << 3;", 2, 12);
+        years(c, "when known 61 3; end;", 2, 11);
+        years(c, "when known calm 3; end;", 2, 11);
         years(c, "when known = 37; end;", 4, 13);
         years(c, "when known = ann; end;", 2, 13);
         years(c, "loop 100; end;", 4, 5);
