@@ -2,7 +2,13 @@ import java.nio.charset.StandardCharsets;
 
 /** What the tests have in common: answers that are due, and texts that are fed. */
 final class Check {
+    /** A call, to be made on one object or on several. */
+    interface Call {
+        long on(SighChart x);
+    }
+
     private final String about;
+    private String sentence = "";
     private int wrong;
     private int asked;
 
@@ -10,12 +16,17 @@ final class Check {
         this.about = about;
     }
 
+    /** The sentence of the document that is asked from here on. */
+    void says(String words) {
+        sentence = words.isEmpty() ? "" : " (\"" + words + "\")";
+    }
+
     void due(String call, long got, long want) {
         asked++;
         if (got != want) {
             wrong++;
             if (wrong <= 50) {
-                System.out.println(about + ": " + call + " answered " + got + ", due is " + want);
+                System.out.println(about + sentence + ": " + call + " answered " + got + ", due is " + want);
             }
         }
     }
@@ -88,6 +99,40 @@ final class Check {
     static int years(SighChart x, String text) {
         feed(x, text);
         return x.years(text.length());
+    }
+
+    /** A duchy that must be taken: how many cells it has tells so. */
+    SighChart sea(String text, int cells) {
+        SighChart x = new SighChart();
+        answered(x, text, duchy(x, text), cells);
+        return x;
+    }
+
+    /** A duchy that is faulty, on a new object. */
+    void faultyDuchy(String text, int kind, int place) {
+        SighChart x = new SighChart();
+        fault(x, text, duchy(x, text), kind, place);
+    }
+
+    /** A duchy that is faulty where its rest begins. */
+    void faultyDuchy(String ahead, String rest, int kind) {
+        faultyDuchy(ahead + rest, kind, ahead.length());
+    }
+
+    void faultyYears(String duchy, String text, int kind, int place) {
+        SighChart x = with(duchy);
+        fault(x, text, years(x, text), kind, place);
+    }
+
+    void faultyYears(String duchy, String ahead, String rest, int kind) {
+        faultyYears(duchy, ahead + rest, kind, ahead.length());
+    }
+
+    /** Years that must be taken, behind a duchy. */
+    SighChart years(String duchy, String text, int steps) {
+        SighChart x = with(duchy);
+        answered(x, text, years(x, text), steps);
+        return x;
     }
 
     static SighChart with(String text) {
