@@ -147,10 +147,7 @@ final class ChartEdgesTest {
         c.says("at most 6 ROWS of 6 CELLS, 5 TRAVELLERS, 12 TELLINGS");
         SighChart x = Check.with(FULL_SEA + "odds 16;harbour 5 5;traveller a lies 16 heard;traveller b;traveller d;traveller e;"
                 + "traveller f heard;" + told("a", "5 5", 3, 3) + told("f", "5 5", 3, 2) + told("b", "0 0", 0, 5) + told("f", "5 4", 1, 2));
-        long[] many = {6, 6, 5, 12, 16, 35, 17, 34, 1};
-        for (int what = 0; what < many.length; what++) {
-            c.answered(x, "many(" + what + ")", x.many(what), many[what]);
-        }
+        c.many(x, 6, 6, 5, 12, 16, 35, 17, 34, 1);
         long[] last = {3, 3, 0, 0, 5};
         for (int what = 0; what < last.length; what++) {
             c.answered(x, "cell(35, " + what + ")", x.cell(35, what), last[what]);

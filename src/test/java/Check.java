@@ -69,6 +69,26 @@ final class Check {
         due("fault(1) of " + text, x.fault(1), place);
     }
 
+    /** Rows, cells in a row, travellers, tellings, odds, the harbour, the heard, the white cells, the right ones; -1: there is none. */
+    void many(SighChart x, long... want) {
+        for (int what = 0; what < want.length; what++) {
+            due("many(" + what + ")", x.many(what), want[what]);
+            due("status() behind many(" + what + ")", x.status(), want[what] < 0 ? 8 : 0);
+        }
+    }
+
+    void telling(SighChart x, int telling, long... want) {
+        for (int what = 0; what < want.length; what++) {
+            answered(x, "telling(" + telling + ", " + what + ")", x.telling(telling, what), want[what]);
+        }
+    }
+
+    void lived(SighChart x, long... want) {
+        for (int what = 0; what < want.length; what++) {
+            answered(x, "lived(" + what + ")", x.lived(what), want[what]);
+        }
+    }
+
     void end() {
         System.out.println(about + ": " + asked + " asked, " + wrong + " wrong");
         if (wrong != 0) {

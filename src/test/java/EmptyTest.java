@@ -43,10 +43,7 @@ final class EmptyTest {
     }
 
     private static void counts(Check c, SighChart x, long... many) {
-        for (int what = 0; what < many.length; what++) {
-            c.due("many(" + what + ")", x.many(what), many[what]);
-            c.due("status() behind many(" + what + ")", x.status(), many[what] < 0 ? 8 : 0);
-        }
+        c.many(x, many);
         c.refused(x, "many(9)", x.many(9), 5);
     }
 

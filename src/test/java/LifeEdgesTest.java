@@ -30,21 +30,12 @@ final class LifeEdgesTest {
         c.end();
     }
 
-    private static void lived(Check c, SighChart x, long missed, long told, long sailed, long wrecked, long left) {
-        long[] want = {missed, told, sailed, wrecked, left};
-        for (int what = 0; what < want.length; what++) {
-            c.answered(x, "lived(" + what + ")", x.lived(what), want[what]);
-        }
-    }
-
     /** These years on a new object, lived by seed 0: how many steps, and lived(0) to lived(4). */
     private static SighChart lives(Check c, String duchy, String years, int steps, long... lived) {
         SighChart x = Check.with(duchy);
         Check.years(x, years);
         c.answered(x, "live(0) of " + years, x.live(0), steps);
-        for (int what = 0; what < lived.length; what++) {
-            c.answered(x, "lived(" + what + ") of " + years, x.lived(what), lived[what]);
-        }
+        c.lived(x, lived);
         return x;
     }
 
@@ -118,10 +109,7 @@ final class LifeEdgesTest {
         c.answered(x, "cell(1, 4)", x.cell(1, 4), 5);
         c.says("told (MISSED by 0)");
         for (int i = 0; i < 5; i++) {
-            c.answered(x, "telling(" + i + ", 0)", x.telling(i, 0), 0);
-            c.answered(x, "telling(" + i + ", 1)", x.telling(i, 1), 1);
-            c.answered(x, "telling(" + i + ", 2)", x.telling(i, 2), 3);
-            c.answered(x, "telling(" + i + ", 3)", x.telling(i, 3), 0);
+            c.telling(x, i, 0, 1, 3, 0);
         }
         c.says("MISSED by 0, also where one was that is gone");
         SighChart gone = Check.with("row s;traveller ann;");
@@ -170,11 +158,11 @@ final class LifeEdgesTest {
         c.answered(x, "many(3)", x.many(3), 1);
         c.answered(x, "cell(1, 1)", x.cell(1, 1), 2);
         c.answered(x, "live(5) again: from there on", x.live(5), 3);
-        lived(c, x, 2, 1, 0, 0, 0);
+        c.lived(x, 2, 1, 0, 0, 0);
         c.answered(x, "many(3)", x.many(3), 2);
         c.answered(x, "hear(1)", x.hear(1), 1);
         c.answered(x, "live(5)", x.live(5), 3);
-        lived(c, x, 1, 1, 0, 0, 0);
+        c.lived(x, 1, 1, 0, 0, 0);
     }
 
     private static void holds(Check c, String test, boolean holds) {
@@ -287,7 +275,7 @@ final class LifeEdgesTest {
         Check.years(again, hundred + hundred + hundred + "hear bob;");
         c.answered(again, "live(0)", again.live(0), 300);
         c.answered(again, "live(0) again", again.live(0), 300);
-        lived(c, again, 297, 0, 0, 0, 1);
+        c.lived(again, 297, 0, 0, 0, 1);
         c.fraction(again, "mean(0, 20)", again.mean(0, 20), 0, 1);
     }
 
@@ -356,10 +344,8 @@ final class LifeEdgesTest {
         c.answered(x, "lived(1) by " + seed, x.lived(1), dice.came);
         c.answered(x, "many(3) by " + seed, x.many(3), dice.tellings.size());
         for (int i = 0; i < dice.tellings.size(); i++) {
-            for (int what = 0; what < 3; what++) {
-                c.answered(x, "telling(" + i + ", " + what + ") by " + seed, x.telling(i, what), dice.tellings.get(i)[what]);
-            }
-            c.answered(x, "telling(" + i + ", 3) by " + seed, x.telling(i, 3), 0);
+            int[] telling = dice.tellings.get(i);
+            c.telling(x, i, telling[0], telling[1], telling[2], 0);
         }
     }
 
@@ -437,25 +423,25 @@ final class LifeEdgesTest {
         x.mean(0, 3);
         c.refused(x, "lived(0) behind a mean", x.lived(0), 8);
         c.answered(x, "live(1)", x.live(1), 6);
-        lived(c, x, 1, 2, 3, 2, 0);
+        c.lived(x, 1, 2, 3, 2, 0);
         for (int no : new int[] {MIN, -1, 5, 6, MAX}) {
             c.refused(x, "lived(" + no + ")", x.lived(no), 5);
         }
         x.live(-1);
         x.live(10000);
-        lived(c, x, 1, 2, 3, 2, 0);
+        c.lived(x, 1, 2, 3, 2, 0);
         x.mean(5, 5);
-        lived(c, x, 1, 2, 3, 2, 0);
+        c.lived(x, 1, 2, 3, 2, 0);
         Check.years(x, "hear ann;");
-        lived(c, x, 1, 2, 3, 2, 0);
+        c.lived(x, 1, 2, 3, 2, 0);
         x.back();
-        lived(c, x, 1, 2, 3, 2, 0);
+        c.lived(x, 1, 2, 3, 2, 0);
         Check.duchy(x, "row ss;");
         x.live(0);
-        lived(c, x, 1, 2, 3, 2, 0);
+        c.lived(x, 1, 2, 3, 2, 0);
         Check.years(x, "");
         x.live(0);
-        lived(c, x, 0, 0, 0, 0, 0);
+        c.lived(x, 0, 0, 0, 0, 0);
     }
 
     private static void meanOfSeeds(Check c) {
@@ -501,16 +487,9 @@ final class LifeEdgesTest {
         SighChart x = Check.with(SEA + "told ann 0 0 calm missed 3;told bob 0 1 fear missed 4;");
         Check.years(x, "hear ann;forget bob;any;any;any;told ann 1 1 sigh;sail 1 1;");
         c.done(x, "mean(0, 20)", x.mean(0, 20));
-        long[] many = {2, 3, 2, 2, 4, 0, 2, 5, 0};
-        for (int what = 0; what < many.length; what++) {
-            c.answered(x, "many(" + what + ")", x.many(what), many[what]);
-        }
-        long[][] tellings = {{0, 0, 0, 3}, {1, 1, 1, 4}};
-        for (int i = 0; i < 2; i++) {
-            for (int what = 0; what < 4; what++) {
-                c.answered(x, "telling(" + i + ", " + what + ")", x.telling(i, what), tellings[i][what]);
-            }
-        }
+        c.many(x, 2, 3, 2, 2, 4, 0, 2, 5, 0);
+        c.telling(x, 0, 0, 0, 0, 3);
+        c.telling(x, 1, 1, 1, 1, 4);
         c.refused(x, "telling(2, 0)", x.telling(2, 0), 2);
         c.refused(x, "lived(0)", x.lived(0), 8);
         c.says("each seed from the same on");

@@ -62,10 +62,7 @@ final class MarkEdgesTest {
     }
 
     private static void all(Check c, SighChart x) {
-        long[] many = {2, 3, 2, 2, 7, 5, 1, 5, 1};
-        for (int what = 0; what < many.length; what++) {
-            c.answered(x, "many(" + what + ")", x.many(what), many[what]);
-        }
+        c.many(x, 2, 3, 2, 2, 7, 5, 1, 5, 1);
         long[] sea = {0, 1, 2, 3, 0, 3};
         for (int cell = 0; cell < 6; cell++) {
             c.answered(x, "cell(" + cell + ", 0)", x.cell(cell, 0), sea[cell]);
@@ -74,12 +71,8 @@ final class MarkEdgesTest {
         c.answered(x, "traveller(0, 0)", x.traveller(0, 0), 3);
         c.answered(x, "traveller(1, 0)", x.traveller(1, 0), 9);
         c.refused(x, "traveller(2, 0)", x.traveller(2, 0), 2);
-        long[][] tellings = {{0, 0, 0, 2}, {1, 5, 3, 5}};
-        for (int i = 0; i < 2; i++) {
-            for (int what = 0; what < 4; what++) {
-                c.answered(x, "telling(" + i + ", " + what + ")", x.telling(i, what), tellings[i][what]);
-            }
-        }
+        c.telling(x, 0, 0, 0, 0, 2);
+        c.telling(x, 1, 1, 5, 3, 5);
         c.refused(x, "telling(2, 0)", x.telling(2, 0), 2);
     }
 
@@ -120,10 +113,7 @@ final class MarkEdgesTest {
         y.mark();
         Check.duchy(y, SEA);
         y.back();
-        long[] many = {2, 3, 3, 4, 15, 1, 6, 3, 0};
-        for (int what = 0; what < many.length; what++) {
-            c.answered(y, "many(" + what + ")", y.many(what), many[what]);
-        }
+        c.many(y, 2, 3, 3, 4, 15, 1, 6, 3, 0);
         c.answered(y, "traveller(2, 0)", y.traveller(2, 0), 5);
         c.answered(y, "telling(3, 3)", y.telling(3, 3), 8);
         c.answered(y, "cell(5, 0)", y.cell(5, 0), 2);
@@ -165,10 +155,7 @@ final class MarkEdgesTest {
                 kept.back();
             }
             c.answered(kept, "live(0) behind " + marks + " marks", kept.live(0), 17);
-            long[] lived = {0, 2, 2, 0, 0};
-            for (int what = 0; what < lived.length; what++) {
-                c.answered(kept, "lived(" + what + ") behind " + marks + " marks", kept.lived(what), lived[what]);
-            }
+            c.lived(kept, 0, 2, 2, 0, 0);
             c.answered(kept, "many(6)", kept.many(6), 0);
         }
         c.says("YEARS without STEPS are YEARS, too");
@@ -261,10 +248,7 @@ final class MarkEdgesTest {
         Check.duchy(x, SEA);
         Check.years(x, "any;");
         x.back();
-        long[] many = {0, 0, 0, 0, 4, -1, 0, 0, 0};
-        for (int what = 0; what < many.length; what++) {
-            c.due("many(" + what + ")", x.many(what), many[what]);
-        }
+        c.many(x, 0, 0, 0, 0, 4, -1, 0, 0, 0);
         c.refused(x, "live(0)", x.live(0), 8);
         c.refused(x, "cell(0, 0)", x.cell(0, 0), 2);
         c.refused(x, "traveller(0, 0)", x.traveller(0, 0), 2);

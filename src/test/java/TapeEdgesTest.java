@@ -144,10 +144,7 @@ final class TapeEdgesTest {
         SighChart x = Check.with("row srb;odds 7;harbour 0 2;traveller ann lies 3 heard;told ann 0 1 tears missed 4;");
         Check.years(x, "any;stop;");
         c.fault(x, "a faulty duchy", Check.duchy(x, "row s;odds 1;traveller bob;told bob 0 0 calm;odds 2;"), 5, 45);
-        long[] many = {1, 3, 1, 1, 7, 2, 1, 2, 0};
-        for (int what = 0; what < many.length; what++) {
-            c.answered(x, "many(" + what + ")", x.many(what), many[what]);
-        }
+        c.many(x, 1, 3, 1, 1, 7, 2, 1, 2, 0);
         c.answered(x, "cell(1, 0)", x.cell(1, 0), 1);
         c.answered(x, "traveller(0, 0)", x.traveller(0, 0), 3);
         c.answered(x, "telling(0, 3)", x.telling(0, 3), 4);
@@ -162,10 +159,7 @@ final class TapeEdgesTest {
         SighChart x = Check.with("row srb;odds 7;harbour 0 2;traveller ann lies 3 heard;told ann 0 1 tears missed 4;");
         Check.years(x, "hear ann;");
         c.answered(x, "row s;", Check.duchy(x, "row s;"), 1);
-        long[] many = {1, 1, 0, 0, 4, 0, 0, 1, 0};
-        for (int what = 0; what < many.length; what++) {
-            c.answered(x, "many(" + what + ")", x.many(what), many[what]);
-        }
+        c.many(x, 1, 1, 0, 0, 4, 0, 0, 1, 0);
         c.refused(x, "live(0)", x.live(0), 8);
         c.denied(x, "mean(0, 1)", x.mean(0, 1), 8);
         c.refused(x, "cell(1, 0)", x.cell(1, 0), 2);
@@ -181,15 +175,13 @@ final class TapeEdgesTest {
         c.answered(x, "live(0), YEARS without STEPS", x.live(0), 0);
     }
 
-    private static void isAlone(Check c, SighChart x, int rows, int columns, String what) {
-        long[] many = {rows, columns, 0, 0, 4, rows == 0 ? -1 : 0, 0, rows * columns, 0};
-        for (int i = 0; i < many.length; i++) {
-            c.due("many(" + i + ") of " + what, x.many(i), many[i]);
-        }
+    /** A square open sea without anything else. */
+    private static void isAlone(Check c, SighChart x, int side, String what) {
+        c.many(x, side, side, 0, 0, 4, side == 0 ? -1 : 0, 0, side * side, 0);
         c.refused(x, "live(0) of " + what, x.live(0), 8);
         c.refused(x, "traveller(0, 0) of " + what, x.traveller(0, 0), 2);
         c.refused(x, "telling(0, 0) of " + what, x.telling(0, 0), 2);
-        for (int cell = 0; cell < rows * columns; cell++) {
+        for (int cell = 0; cell < side * side; cell++) {
             for (int kind = 0; kind < 4; kind++) {
                 c.answered(x, "votes(" + cell + ", " + kind + ") of " + what, x.votes(cell, kind), 0);
             }
@@ -206,17 +198,18 @@ final class TapeEdgesTest {
         String rich = "row rbi;row bir;odds 7;harbour 1 2;traveller ann lies 3 heard;traveller bob lies 9 heard;"
                 + "told ann 0 1 tears missed 4;told bob 1 2 sigh missed 5;told bob 0 0 fear;";
         String[] plain = {"", "row s;", "row ss;row ss;row ss;", "row sssssss;", "?", "row s;odds 9;harbour 0 0;loop"};
+        String[] lasts = {"", "row s;", "row ss;row ss;"};
         for (int times = 1; times <= 4; times++) {
             for (String next : plain) {
-                for (String last : new String[] {"", "row s;", "row ss;row ss;"}) {
+                for (int side = 0; side < lasts.length; side++) {
                     SighChart x = new SighChart();
                     for (int i = 0; i < times; i++) {
                         c.answered(x, rich, Check.duchy(x, rich), 6);
                         c.answered(x, "years", Check.years(x, "hear ann;forget bob;"), 2);
                     }
                     Check.duchy(x, next);
-                    c.answered(x, last, Check.duchy(x, last), last.length() < 3 ? 0 : last.length() == 6 ? 1 : 4);
-                    isAlone(c, x, last.length() < 3 ? 0 : last.length() == 6 ? 1 : 2, last.length() < 3 ? 0 : last.length() == 6 ? 1 : 2, last);
+                    c.answered(x, lasts[side], Check.duchy(x, lasts[side]), side * side);
+                    isAlone(c, x, side, lasts[side]);
                 }
             }
         }
@@ -243,10 +236,7 @@ final class TapeEdgesTest {
                 c.refused(x, faulty, Check.duchy(x, faulty), 10);
                 c.answered(x, "a whole one behind " + faulty,
                         Check.duchy(x, "odds 5;traveller ann;row sss;traveller a heard;harbour 0 2;told a 0 2 calm;"), 3);
-                long[] many = {1, 3, 2, 1, 5, 2, 2, 2, 1};
-                for (int what = 0; what < many.length; what++) {
-                    c.answered(x, "many(" + what + ") behind " + faulty, x.many(what), many[what]);
-                }
+                c.many(x, 1, 3, 2, 1, 5, 2, 2, 2, 1);
             }
         }
     }

@@ -203,10 +203,7 @@ final class TextsTest {
 
     private static void wholeDuchy(Check c) {
         SighChart x = Check.with(TWO + "odds 9;harbour 1 2;told bob 1 0 sigh missed 4;told ann 0 2 fear;");
-        long[] many = {2, 3, 2, 2, 9, 5, 2, 5, 1};
-        for (int what = 0; what < many.length; what++) {
-            c.answered(x, "many(" + what + ")", x.many(what), many[what]);
-        }
+        c.many(x, 2, 3, 2, 2, 9, 5, 2, 5, 1);
         long[] kinds = {0, 1, 2, 3, 0, 0};
         for (int cell = 0; cell < 6; cell++) {
             c.answered(x, "cell(" + cell + ", 0)", x.cell(cell, 0), kinds[cell]);

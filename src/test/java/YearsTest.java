@@ -13,13 +13,6 @@ final class YearsTest {
         check.end();
     }
 
-    private static void lived(Check c, SighChart x, long missed, long told, long sailed, long wrecked, long left) {
-        long[] want = {missed, told, sailed, wrecked, left};
-        for (int what = 0; what < want.length; what++) {
-            c.answered(x, "lived(" + what + ")", x.lived(what), want[what]);
-        }
-    }
-
     private static void steps(Check c) {
         SighChart x = Check.with(SEA);
         c.refused(x, "live(0)", x.live(0), 8);
@@ -30,25 +23,25 @@ final class YearsTest {
         c.refused(x, "lived(-1)", x.lived(-1), 5);
         Check.years(x, "hear ann;hear ann;hear bob;forget bob;forget bob;told ann 0 1 fear;sail 0 2;sail 0 1;sail 0 0;stop;any;");
         c.answered(x, "live(0)", x.live(0), 10);
-        lived(c, x, 4, 1, 2, 1, 0);
+        c.lived(x, 4, 1, 2, 1, 0);
         c.answered(x, "many(6)", x.many(6), 1);
         c.answered(x, "many(3)", x.many(3), 1);
         c.answered(x, "telling(0, 3)", x.telling(0, 3), 0);
         Check.years(x, "told bob 0 0 sigh;".repeat(5) + "told bob 0 0 sigh;");
         c.answered(x, "live(9999)", x.live(9999), 6);
-        lived(c, x, 1, 5, 0, 0, 0);
+        c.lived(x, 1, 5, 0, 0, 0);
         Check.years(x, "loop 9;told bob 1 1 sigh;told bob 1 2 sigh;end;");
         c.answered(x, "live(0)", x.live(0), 19);
-        lived(c, x, 12, 6, 0, 0, 0);
+        c.lived(x, 12, 6, 0, 0, 0);
         c.answered(x, "many(3)", x.many(3), 12);
         Check.duchy(x, "row s;");
-        lived(c, x, 12, 6, 0, 0, 0);
+        c.lived(x, 12, 6, 0, 0, 0);
         c.refused(x, "live(0)", x.live(0), 8);
-        lived(c, x, 12, 6, 0, 0, 0);
+        c.lived(x, 12, 6, 0, 0, 0);
         SighChart rock = Check.with("row rs;");
         Check.years(rock, "sail 0 0;");
         c.answered(rock, "live(0), a harbour in a rock", rock.live(0), 1);
-        lived(c, rock, 0, 0, 1, 0, 0);
+        c.lived(rock, 0, 0, 1, 0, 0);
     }
 
     /** How many steps are come to if one more stands in a when. */
@@ -192,20 +185,14 @@ final class YearsTest {
         c.answered(x, "many(4)", x.many(4), 2);
         c.refused(x, "live(0)", x.live(0), 8);
         c.answered(x, "back()", x.back(), 1);
-        long[] many = {2, 3, 3, 1, 1, 4, 3, 5, 0};
-        for (int what = 0; what < many.length; what++) {
-            c.answered(x, "many(" + what + ")", x.many(what), many[what]);
-        }
+        c.many(x, 2, 3, 3, 1, 1, 4, 3, 5, 0);
         c.answered(x, "cell(0, 0)", x.cell(0, 0), 3);
         c.answered(x, "traveller(0, 0)", x.traveller(0, 0), 11);
         c.answered(x, "telling(0, 3)", x.telling(0, 3), 3);
         c.answered(x, "live(0)", x.live(0), 1);
         c.answered(x, "lived(0), ann is heard already", x.lived(0), 1);
         c.answered(x, "back()", x.back(), 0);
-        long[] first = {2, 3, 2, 0, 4, 0, 2, 6, 0};
-        for (int what = 0; what < first.length; what++) {
-            c.answered(x, "many(" + what + ")", x.many(what), first[what]);
-        }
+        c.many(x, 2, 3, 2, 0, 4, 0, 2, 6, 0);
         c.answered(x, "cell(0, 0)", x.cell(0, 0), 0);
         c.answered(x, "lived(0), of what was lived latest", x.lived(0), 1);
         c.answered(x, "live(0)", x.live(0), 1);
