@@ -10,6 +10,7 @@ final class TapeEdgesTest {
         atMostNineHundred(c);
         firstBytesOfTheTape(c);
         emptyButForFive(c);
+        fiveAheadOfTen(c);
         yearsAboveThreeHundred(c);
         theOldOneStays(c);
         inPlaceOfThatAhead(c);
@@ -113,6 +114,23 @@ final class TapeEdgesTest {
         c.due("feed behind years that were taken", x.feed(0x78782020, 0, 0, 0, 0), 20);
         c.fault(x, "xx", x.years(3), 2, 0);
         c.due("feed behind years with a FAULT", blankFeed(x), 20);
+    }
+
+    private static void fiveAheadOfTen(Check c) {
+        c.says("STATUS of a call is the first of these that holds: 5 ahead of 10");
+        SighChart x = Check.with(TWO);
+        c.fault(x, "odds 17;", Check.duchy(x, "odds 17;"), 4, 5);
+        Check.feed(x, "?" + " ".repeat(319));
+        for (int n : new int[] {MIN, -1, 321, MAX}) {
+            c.refused(x, "duchy(" + n + ") of a faulty text", x.duchy(n), 5);
+            c.refused(x, "years(" + n + ") of a faulty text", x.years(n), 5);
+        }
+        c.refused(x, "years(301) of a faulty text", x.years(301), 5);
+        c.due("fault(0), nothing was read", x.fault(0), 4);
+        c.due("fault(1), nothing was read", x.fault(1), 5);
+        c.due("feed, the tape stays", blankFeed(x), 340);
+        c.fault(x, "years(300)", x.years(300), 1, 0);
+        c.many(x, 1, 2, 2, 0, 4, 0, 1, 2, 0);
     }
 
     private static void yearsAboveThreeHundred(Check c) {
