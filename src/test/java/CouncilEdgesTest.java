@@ -314,6 +314,21 @@ final class CouncilEdgesTest {
         c.answered(move, "moveOf(1)", move.moveOf(1), 0);
         Check.duchy(set, "row ss;traveller a heard;traveller b heard;traveller d;told d 0 1 calm;");
         c.answered(set, "planSet(3), of another DUCHY", set.planSet(3), 4);
+        c.says("of the TRAVELLERS there are now: fewer than there were");
+        Check.duchy(plan, "row ss;traveller a;told a 0 1 calm;");
+        Check.duchy(set, "row ss;traveller a;traveller b heard;told a 0 1 calm;");
+        c.answered(plan, "plan(60)", plan.plan(60), 1);
+        c.answered(plan, "planSet(60)", plan.planSet(60), 1);
+        c.answered(set, "planSet(60)", set.planSet(60), 1);
+        c.answered(set, "plan(60)", set.plan(60), 1);
+        Check.duchy(set, "row ssss;traveller a;traveller b;told a 0 1 calm;");
+        set.come(0);
+        for (int cell = 0; cell < 4; cell++) {
+            set.tell(2, cell, 0, 0);
+        }
+        c.answered(set, "planSet(60)", set.planSet(60), 4);
+        Check.duchy(set, "row ss;traveller a;traveller b;told a 0 1 calm;");
+        c.answered(set, "planSet(60)", set.planSet(60), 1);
         Check.duchy(move, "row ss;traveller a heard;traveller b heard;traveller d;told d 0 1 calm;");
         c.answered(move, "moveOf(3), of another DUCHY", move.moveOf(3), 2);
     }
