@@ -1254,42 +1254,40 @@ public final class SighChart {
     private static final class DuchyReader {
         private static final String CELL_LETTERS = "srbi";
 
-        private Duchy duchy;
         private boolean oddsTold;
         private boolean harbourTold;
 
-        boolean take(Tape tape, int n, Duchy into) {
-            into.clear();
-            duchy = into;
+        boolean take(Tape tape, int n, Duchy duchy) {
+            duchy.clear();
             oddsTold = false;
             harbourTold = false;
             tape.begin(n);
             for (int part = 0; part < n && !tape.atEnd(); part++) {
-                if (!takePart(tape)) {
+                if (!takePart(tape, duchy)) {
                     return false;
                 }
             }
             return true;
         }
 
-        private boolean takePart(Tape tape) {
+        private boolean takePart(Tape tape, Duchy duchy) {
             switch (tape.word()) {
                 case Tape.ROW:
-                    return takeRow(tape) && tape.passSign(';');
+                    return takeRow(tape, duchy) && tape.passSign(';');
                 case Tape.ODDS:
-                    return takeOdds(tape) && tape.passSign(';');
+                    return takeOdds(tape, duchy) && tape.passSign(';');
                 case Tape.HARBOUR:
-                    return takeHarbour(tape) && tape.passSign(';');
+                    return takeHarbour(tape, duchy) && tape.passSign(';');
                 case Tape.TRAVELLER:
-                    return takeTraveller(tape) && tape.passSign(';');
+                    return takeTraveller(tape, duchy) && tape.passSign(';');
                 case Tape.TOLD:
-                    return takeTold(tape) && tape.passSign(';');
+                    return takeTold(tape, duchy) && tape.passSign(';');
                 default:
                     return tape.blame(2);
             }
         }
 
-        private boolean takeRow(Tape tape) {
+        private boolean takeRow(Tape tape, Duchy duchy) {
             if (harbourTold || duchy.tellings > 0) {
                 return tape.blame(5);
             }
@@ -1317,7 +1315,7 @@ public final class SighChart {
             return true;
         }
 
-        private boolean takeOdds(Tape tape) {
+        private boolean takeOdds(Tape tape, Duchy duchy) {
             if (oddsTold) {
                 return tape.blame(5);
             }
@@ -1331,7 +1329,7 @@ public final class SighChart {
             return true;
         }
 
-        private boolean takeHarbour(Tape tape) {
+        private boolean takeHarbour(Tape tape, Duchy duchy) {
             if (harbourTold) {
                 return tape.blame(5);
             }
@@ -1350,7 +1348,7 @@ public final class SighChart {
             return true;
         }
 
-        private boolean takeTraveller(Tape tape) {
+        private boolean takeTraveller(Tape tape, Duchy duchy) {
             if (duchy.travellers >= MOST_TRAVELLERS) {
                 return tape.blame(6);
             }
@@ -1379,7 +1377,7 @@ public final class SighChart {
             return duchy.addTraveller(name, lies, heard);
         }
 
-        private boolean takeTold(Tape tape) {
+        private boolean takeTold(Tape tape, Duchy duchy) {
             if (duchy.tellings >= MOST_TELLINGS) {
                 return tape.blame(6);
             }
@@ -1405,10 +1403,10 @@ public final class SighChart {
                 return tape.blame(5);
             }
             tape.advance();
-            return takeFeeling(tape, traveller, cell);
+            return takeFeeling(tape, duchy, traveller, cell);
         }
 
-        private boolean takeFeeling(Tape tape, int traveller, int cell) {
+        private boolean takeFeeling(Tape tape, Duchy duchy, int traveller, int cell) {
             int kind = tape.feeling();
             if (kind == NONE) {
                 return tape.blame(2);
@@ -1431,8 +1429,6 @@ public final class SighChart {
     private static final class YearsReader {
         private static final int MOST_ROUNDS = 99;
 
-        private Duchy duchy;
-        private Almanac almanac;
         /** The lines of the steps that hold what is read now. */
         private final int[] open = new int[Almanac.MOST_DEPTH];
         private int depth;
@@ -1442,14 +1438,12 @@ public final class SighChart {
         private int comparison;
         private int number;
 
-        boolean take(Tape tape, int n, Duchy against, Almanac into) {
-            into.clear();
-            duchy = against;
-            almanac = into;
+        boolean take(Tape tape, int n, Duchy duchy, Almanac almanac) {
+            almanac.clear();
             depth = 0;
             tape.begin(n);
             for (int step = 0; step < n && !tape.atEnd(); step++) {
-                boolean taken = tape.isWord(Tape.CLOSE) ? takeEnd(tape) : takeStep(tape);
+                boolean taken = tape.isWord(Tape.CLOSE) ? takeEnd(tape, almanac) : takeStep(tape, duchy, almanac);
                 if (!taken) {
                     return false;
                 }
@@ -1461,7 +1455,7 @@ public final class SighChart {
             return true;
         }
 
-        private boolean takeEnd(Tape tape) {
+        private boolean takeEnd(Tape tape, Almanac almanac) {
             if (depth <= 0 || depth > open.length) {
                 return tape.blame(2);
             }
@@ -1471,7 +1465,7 @@ public final class SighChart {
             return tape.passSign(';');
         }
 
-        private boolean takeStep(Tape tape) {
+        private boolean takeStep(Tape tape, Duchy duchy, Almanac almanac) {
             int word = tape.word();
             if (!beginsStep(word)) {
                 return tape.blame(2);
@@ -1487,7 +1481,7 @@ public final class SighChart {
                 depth++;
             }
             tape.advance();
-            boolean taken = word == Tape.WHEN ? takeTest(tape) : takeRest(tape, word);
+            boolean taken = word == Tape.WHEN ? takeTest(tape, duchy, almanac) : takeRest(tape, word, duchy, almanac);
             return taken && tape.passSign(';');
         }
 
@@ -1495,15 +1489,15 @@ public final class SighChart {
             return word == Tape.TOLD || within(word, Tape.HEAR, Tape.WHEN) || word == Tape.LOOP || word == Tape.STOP;
         }
 
-        private boolean takeRest(Tape tape, int word) {
+        private boolean takeRest(Tape tape, int word, Duchy duchy, Almanac almanac) {
             switch (word) {
                 case Tape.HEAR:
                 case Tape.FORGET:
-                    return takeName(tape) && almanac.addStep(word, traveller, 0, 0);
+                    return takeName(tape, duchy) && almanac.addStep(word, traveller, 0, 0);
                 case Tape.TOLD:
-                    return takeName(tape) && takeCell(tape) && takeFeeling(tape) && almanac.addStep(word, traveller, cell, kind);
+                    return takeName(tape, duchy) && takeCell(tape, duchy) && takeFeeling(tape) && almanac.addStep(word, traveller, cell, kind);
                 case Tape.SAIL:
-                    return takeCell(tape) && almanac.addStep(word, cell, 0, 0);
+                    return takeCell(tape, duchy) && almanac.addStep(word, cell, 0, 0);
                 case Tape.LOOP:
                     return takeNumber(tape, 1, MOST_ROUNDS) && almanac.addStep(word, number, 0, 0);
                 default:
@@ -1512,7 +1506,7 @@ public final class SighChart {
         }
 
         /** A when stands in the almanac as its test. */
-        private boolean takeTest(Tape tape) {
+        private boolean takeTest(Tape tape, Duchy duchy, Almanac almanac) {
             int test = tape.word();
             if (test != Tape.HEARD && test != Tape.BLANK && test != Tape.DRAWN && test != Tape.KNOWN) {
                 return tape.blame(2);
@@ -1520,18 +1514,18 @@ public final class SighChart {
             tape.advance();
             switch (test) {
                 case Tape.HEARD:
-                    return takeName(tape) && almanac.addStep(test, traveller, 0, 0);
+                    return takeName(tape, duchy) && almanac.addStep(test, traveller, 0, 0);
                 case Tape.BLANK:
-                    return takeCell(tape) && almanac.addStep(test, cell, 0, 0);
+                    return takeCell(tape, duchy) && almanac.addStep(test, cell, 0, 0);
                 case Tape.DRAWN:
-                    return takeCell(tape) && takeFeeling(tape) && almanac.addStep(test, cell, kind, 0);
+                    return takeCell(tape, duchy) && takeFeeling(tape) && almanac.addStep(test, cell, kind, 0);
                 default:
                     return takeComparison(tape) && takeNumber(tape, 0, MOST_CELLS)
                             && almanac.addStep(test, comparison, number, 0);
             }
         }
 
-        private boolean takeName(Tape tape) {
+        private boolean takeName(Tape tape, Duchy duchy) {
             if (!tape.isName()) {
                 return tape.blame(2);
             }
@@ -1543,7 +1537,7 @@ public final class SighChart {
             return true;
         }
 
-        private boolean takeCell(Tape tape) {
+        private boolean takeCell(Tape tape, Duchy duchy) {
             if (!tape.isNumber(0, duchy.rows - 1)) {
                 return false;
             }
